@@ -1469,36 +1469,34 @@ public final class EggThrow {
 
         /** All in one loop: a throw asks for it so often that no call should stand within. */
         int worth() {
+            int[] signs = code;
+            int[] row = stack;
             int top = 0;
-            boolean skips = false;
-            for (int i = 0; i < code.length; i++) {
-                int sign = code[i];
-                if (sign == ENDS) {
-                    if (!skips) {
-                        return stack[0];
-                    }
-                    skips = false;
-                } else if (skips) {
-                    continue;
-                } else if (sign >= LETTER_R) {
-                    if (top >= stack.length) {
+            for (int i = 0; i < signs.length; i++) {
+                int sign = signs[i];
+                if (sign >= LETTER_R) {
+                    if (top >= row.length) {
                         return 0;
                     }
-                    stack[top] = sign >= 0 ? sign : letters[-1 - sign];
+                    row[top] = sign >= 0 ? sign : letters[-1 - sign];
                     top++;
                 } else if (top < 1) {
                     return 0;
+                } else if (sign == ENDS) {
+                    return row[top - 1];
                 } else if (sign == NOT) {
-                    stack[top - 1] = 1 - stack[top - 1];
+                    row[top - 1] = 1 - row[top - 1];
                 } else if (sign == WHEN) {
                     top--;
-                    skips = stack[top] == 0;
+                    while (row[top] == 0 && i < signs.length && signs[i] != ENDS) {
+                        i++;
+                    }
                 } else if (top < 2) {
                     return 0;
                 } else {
                     top--;
-                    int left = stack[top - 1];
-                    int right = stack[top];
+                    int left = row[top - 1];
+                    int right = row[top];
                     long made;
                     switch (sign) {
                         case PLUS:
@@ -1529,7 +1527,7 @@ public final class EggThrow {
                             made = left | right;
                             break;
                     }
-                    stack[top - 1] = made > MOST_NUMBER ? MOST_NUMBER : made < -MOST_NUMBER ? -MOST_NUMBER : (int) made;
+                    row[top - 1] = made > MOST_NUMBER ? MOST_NUMBER : made < -MOST_NUMBER ? -MOST_NUMBER : (int) made;
                 }
             }
             return 0;
