@@ -1506,6 +1506,7 @@ public final class EggThrow {
                             made = left - right;
                             break;
                         case TIMES:
+                        case AND:
                             made = (long) left * right;
                             break;
                         case BY:
@@ -1519,9 +1520,6 @@ public final class EggThrow {
                             break;
                         case ABOVE:
                             made = left > right ? 1 : 0;
-                            break;
-                        case AND:
-                            made = left & right;
                             break;
                         default:
                             made = left | right;
@@ -2071,7 +2069,10 @@ public final class EggThrow {
 
         /** Rising partners tell rising digits, so the first of several as great is the least. */
         private void pairUp(int used, long sum) {
-            int lower = Integer.numberOfTrailingZeros(~used);
+            int lower = 0;
+            while (lower < choices && (used >> lower & 1) == 1) {
+                lower++;
+            }
             if (lower >= choices) {
                 if (sum > hopesTogether) {
                     hopesTogether = sum;

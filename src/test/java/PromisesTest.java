@@ -268,6 +268,7 @@ public final class PromisesTest {
     private static void offs() {
         EggThrow x = meadow("mw3d1;pl2b9;p;e");
         due("10 against the wind", x.off(0, 0, 9, 5, 2), 5 + 2 - 6);
+        due("10 no bow", x.off(0, 0, 0, 1, -2), -1);
         due("10 cut towards 0", x.off(0, 0, 1, 0, 0), 0);
         due("10 cut towards 0", x.off(0, 0, 3, 0, 0), -2);
         due("10 with the wind", x.off(0, 1, 3, -5, -2), -5);
@@ -287,6 +288,7 @@ public final class PromisesTest {
         due("11 too near", x.force(0, 0, 10, 0, -2), 20 + 6 - 2 + 6);
         due("11 an arm that gives", x.force(1, 0, 10, 2, 0), 0);
         due("11 below 0", x.force(1, 0, 1, 0, 0), 0);
+        due("11 the highest bow, too far", x.force(0, 0, 1, 9, 99), 2 + 27 - 2 + 99);
         due("11 the farthest", x.force(0, 1, 60, 0, -99), 120 + 45 + 2 + 297);
         int[][] refused = {{2, 0, 1, 0, 0}, {-1, 0, 1, 0, 0}, {0, 2, 1, 0, 0}, {0, -1, 1, 0, 0}, {0, 0, 0, 0, 0},
             {0, 0, 61, 0, 0}, {0, 0, 1, 10, 0}, {0, 0, 1, -1, 0}, {0, 0, 1, 0, 100}, {0, 0, 1, 0, -100}};
@@ -338,6 +340,8 @@ public final class PromisesTest {
         due("12 none", x.good(1, 0, 18, 407), 0);
         due("12 dropped", x.good(1, 0, 4, 0), 0);
         due("12 the highest bow", x.good(1, 0, 4, 510), 0);
+        due("12 the bow of who throws", meadow("pb9;pb0;e").good(1, 0, 4, 905), 3);
+        due("12 the bow of who throws", meadow("pb9;pb0;e").good(10, 0, 4, 105), NONE);
         due("12 cracked", meadow("p;p;eb61c1").good(1, 0, 18, 405), 1);
         due("12 cracked", meadow("p;p;eb59c1").good(1, 0, 18, 405), 0);
         int[][] refused = {{0, 0, 4, 5}, {11, 0, 4, 5}, {2, 0, 4, 5}, {20, 0, 4, 5}, {-1, 0, 4, 5}, {1, 2, 4, 5},
@@ -574,6 +578,8 @@ public final class PromisesTest {
         due("26 safe", x.safe(1, 0), 16);
         due("26 sixty", meadow("p;p;e", "y:0").safe(1, 0), 60);
         due("26 none", meadow("p;p;e", "y:99").safe(1, 0), NONE);
+        due("26 all slips of who throws", meadow("pl0;p;e").safe(1, 0), 18);
+        due("26 all slips of who throws", meadow("pl0;p;e").safe(10, 0), 16);
         due("26 the most, not the first gap", meadow("p;p;e", "y:d=9?0;y:99").safe(1, 0), 9);
         int[] two = {66, 4, 2, 0};
         int[] one = {66, 3, 0, 0};
@@ -659,6 +665,10 @@ public final class PromisesTest {
             due("32 learn " + c[0] + " " + c[1], x.learn(1, 0, c[0], c[1]), c[2]);
         }
         due("32 the bows are as they were", x.person(0, 3), 0);
+        due("32 the slips of each", meadow("pb0;pl0b0;e").learn(1, 0, 8, WHOLE), 44);
+        due("32 nine at most", meadow("pb9;pb9;e").learn(1, 0, 8, 333333333), 0);
+        due("32 up to nine", meadow("mf60;pb0;p;e", "y:9-b").learn(1, 0, 1, 1), 0);
+        due("32 up to nine", meadow("mf60;pb0;p;eb1", "y:[9-b]*2").learn(1, 0, 1, 1), 90);
         due("32 higher ones already", meadow("pb3;pb1;e").learn(1, 0, 7, WHOLE), 11);
         int[][] refused = {{0, 0, 1, 1}, {2, 0, 1, 1}, {1, 2, 1, 1}, {1, 10, 1, 1}, {1, 0, 61, 0}, {1, 0, -1, 0},
             {1, 0, 1, -1}, {1, 0, 1, WHOLE + 1}};
@@ -709,6 +719,7 @@ public final class PromisesTest {
         due("35 no film", x.like(0, -1), NONE);
         tell(x, 0, "p;p;e");
         due("33 a meadow leaves films", x.film(0, 0), 2);
+        due("34 a meadow leaves films", x.raw(0, 50, 1), 5);
     }
 
     private static void flatTops() {
@@ -959,6 +970,8 @@ public final class PromisesTest {
         tell(x, 1, "y:6");
         due("44 none measured", x.held(), 23);
         due("43 one", x.measure(1, 400, 0, 5), 1);
+        due("43 the bounds", meadow("p;p;e").measure(1, 191, 99, 999), 1);
+        due("43 the bounds", meadow("p;p;e").measure(1, 6000, -99, 0), 1);
         due("44 it is so by some", x.held(), 16 + 1 + 2);
         due("43 two", x.measure(0, 421, -2, 8 + 3 - 6 + 6), 2);
         due("44 by none of the laws", x.held(), 16);
