@@ -569,6 +569,8 @@ public final class PromisesTest {
         }
         due("24 no meadow", new EggThrow().duel(1, 1, 0, 0), NONE);
         EggThrow out = meadow("p;p;e", "y:99");
+        EggThrow all = meadow("ms1f1;p;p;e", "y:0");
+        due("24 all sixty, as far", all.duel(1, 1, 0, 1), WHOLE);
         due("24 none at all", out.duel(1, 1, 0, 0), 0);
         due("24 none at all, as far", out.duel(1, 1, 0, 1), WHOLE);
     }
@@ -669,6 +671,7 @@ public final class PromisesTest {
         due("32 nine at most", meadow("pb9;pb9;e").learn(1, 0, 8, 333333333), 0);
         due("32 up to nine", meadow("mf60;pb0;p;e", "y:9-b").learn(1, 0, 1, 1), 0);
         due("32 up to nine", meadow("mf60;pb0;p;eb1", "y:[9-b]*2").learn(1, 0, 1, 1), 90);
+        due("32 both up to nine", meadow("mf58;pb0;pb0;eb1", "y:[9-b]*2").learn(1, 0, 2, 1), 99);
         due("32 higher ones already", meadow("pb3;pb1;e").learn(1, 0, 7, WHOLE), 11);
         int[][] refused = {{0, 0, 1, 1}, {2, 0, 1, 1}, {1, 2, 1, 1}, {1, 10, 1, 1}, {1, 0, 61, 0}, {1, 0, -1, 0},
             {1, 0, 1, -1}, {1, 0, 1, WHOLE + 1}};
@@ -791,6 +794,7 @@ public final class PromisesTest {
         EggThrow x = meadow("p;p;p;p;p;p;e");
         long two = 333333333L * 666666667L / WHOLE;
         due("37 one pair", meadow("p;p;e").crown(10, 0), WHOLE);
+        due("37 one pair, all sixty", meadow("ms1f1;p;p;e", "y:0").crown(10, 0), WHOLE);
         due("37 two pairs", meadow("p;p;p;p;e").crown(1032, 2), two);
         due("37 three pairs", x.crown(103254, 4), two * 666666667L / WHOLE);
         EggThrow y = meadow("p;p;p;p;e;eb10");
