@@ -16,6 +16,7 @@ public final class BoundariesTest {
         Edges33To38.hold();
         Edges39To46.hold();
         Edges47To53.hold();
+        EdgesOfCodes.hold();
         if (Edges.finish(System.getProperty("doc")) > 0) {
             System.exit(1);
         }

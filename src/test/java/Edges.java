@@ -330,10 +330,12 @@ final class Edges {
         }
     }
 
-    // ---- codes that many promises share
+    // ---- codes that many promises share: refused where all is caught too, so that no answer
+    // hides a refusal that is missing
 
     static void noSuchTwo(long refusal, NumberCall call) {
         refused(RICH, refusal, NO_TWO, call);
+        refused(EASY, refusal, NO_TWO, call);
         refused(BARE, refusal, LAST_TWO, call);
         taken(EASY, refusal, LAST_TWO, call);
         refused(of("p;p;e"), refusal, new int[] {2, 12, 20, 21}, call);
@@ -343,11 +345,13 @@ final class Edges {
 
     static void alike(long refusal, NumberCall call) {
         refused(RICH, refusal, ALIKE, call);
+        refused(EASY, refusal, ALIKE, call);
         refused(FULL, refusal, new int[] {44, 55}, call);
     }
 
     static void noSuchEggEnd(long refusal, NumberCall call) {
         refused(RICH, refusal, NO_EGG_END, call);
+        refused(EASY, refusal, NO_EGG_END, call);
         taken(EASY, refusal, LAST_EGG_END, call);
         refused(of("p;p;e"), refusal, new int[] {2, 10, 11}, call);
         taken(of("p;p;e;e;e;e;e;e", "y:0"), refusal, new int[] {50, 51}, call);
@@ -356,6 +360,7 @@ final class Edges {
 
     static void noSuchEgg(long refusal, NumberCall call) {
         refused(RICH, refusal, NO_EGG, call);
+        refused(EASY, refusal, NO_EGG, call);
         refused(BARE, refusal, new int[] {0, 1}, call);
         taken(EASY, refusal, LAST_EGG, call);
         refused(of("p;p;e"), refusal, new int[] {1, 2}, call);
@@ -365,17 +370,20 @@ final class Edges {
 
     static void noSuchEnd(long refusal, NumberCall call) {
         refused(RICH, refusal, NO_END, call);
+        refused(EASY, refusal, NO_END, call);
         taken(EASY, refusal, BOTH_ENDS, call);
     }
 
     static void noSuchYards(long refusal, NumberCall call) {
         refused(RICH, refusal, NO_YARDS, call);
+        refused(EASY, refusal, NO_YARDS, call);
         taken(EASY, refusal, LAST_YARDS, call);
     }
 
     /** What is 0 or 1. */
     static void noSuchWhat(long refusal, NumberCall call) {
         refused(RICH, refusal, NO_WHAT, call);
+        refused(EASY, refusal, NO_WHAT, call);
         taken(EASY, refusal, BOTH_WHATS, call);
     }
 

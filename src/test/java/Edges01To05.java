@@ -36,6 +36,7 @@ final class Edges01To05 {
         textUsualItems();
         textLastItems();
         textAllOfAnotherIsGone();
+        textSmallerBehindLarger();
         textNumbers();
         textRefused();
         textThereAreFour();
@@ -300,6 +301,9 @@ final class Edges01To05 {
         fault0("pl999", 4);
         fault0("pl111", 4);
         fault0("eb100;p;p", 4);
+        fault0("eb000;p;p", 4);
+        fault0("pl990;p;e", 4);
+        fault0("mf610;p;p;e", 4);
         fault0("mf600;p;p;e", 4);
         fault0("mf 6000;p;p;e", 5);
         Edges.due("a fifth", Edges.fault(1, "y:00000"), 6);
@@ -702,6 +706,44 @@ final class Edges01To05 {
         Edges.due("is another one", same.count(4), 1);
         Edges.due("is another one", same.count(10), 0);
         Edges.due("is another one", same.back(), NONE);
+    }
+
+    /** A small meadow behind one with as much as fits: nothing may reach beyond what it has. */
+    private static void textSmallerBehindLarger() {
+        Edges.sentence(5, "all that was of another one is gone");
+        EggThrow x = Edges.meadow("mf60;pa9b9;pa9b9;pa9b9;pa9b9;pa9b9;pa9b9;eb50;eb99;eb98;eb97;eb96;eb99", "y:50");
+        x.whom(0);
+        x.row(1, 60, 0);
+        x.carton(1, 0, 1, 0);
+        x.rank(5, 14);
+        x.fete(543210, 1, 0);
+        x.crown(543210, 0);
+        x.duel(1, 1, 11, 0);
+        x.learn(45, 50, 1, 1);
+        Edges.tell(x, 0, "mf60;p;p;e");
+        x.law(0);
+        Edges.due("which", x.which(1, 0, 0), 0);
+        Edges.due("which", x.which(1, 0, 1), 0);
+        Edges.due("lot", x.lot(1, 0), 0);
+        Edges.due("spare", x.spare(1, 0, 60), NONE);
+        Edges.due("carton", x.carton(1, 0, 1, 0), 0);
+        Edges.due("carton", x.carton(1, 0, 1, 1), 0);
+        Edges.due("whom", x.whom(0), 10);
+        Edges.due("whom", x.whom(1), 0);
+        Edges.due("rank", x.rank(0, 0), 1);
+        Edges.due("no second rank", x.rank(0, 1), NONE);
+        Edges.due("row", x.row(0, 60, 0), 1);
+        Edges.due("row", x.row(0, 60, 1), 0);
+        Edges.due("fete", x.fete(10, 1, 0), 1);
+        Edges.due("crown", x.crown(10, 0), Edges.WHOLE);
+        Edges.due("no such egg", x.egg(1, 0), NONE);
+        Edges.due("no such person", Edges.person(x, 2, 0), Edges.THROWN);
+        EggThrow y = Edges.meadow("p;p;p;p;p;p;e");
+        y.crown(543210, 2);
+        Edges.tell(y, 0, "p;p;p;p;e");
+        Edges.due("a lower one of the pairs ahead", y.crown(3210, 2), NONE);
+        Edges.due("whom of four", y.whom(0), 1032);
+        Edges.due("row of four", y.row(0, 4, 0), 123);
     }
 
     private static void textNumbers() {

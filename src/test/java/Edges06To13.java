@@ -12,6 +12,7 @@ final class Edges06To13 {
         lawsThatHold();
         lawsRefused();
         setsWithin();
+        setsAreFelt();
         setsRefused();
         offsFromTerms();
         offsRefused();
@@ -119,6 +120,29 @@ final class Edges06To13 {
         Edges.due("a best by its end", y.best(1, 0, 18, 2), 0);
         y.set(0, 0);
         Edges.due("calm again", y.best(1, 0, 18, 2), 1);
+    }
+
+    /** Whatever was asked before: all is as in a meadow that was told so. */
+    private static void setsAreFelt() {
+        Edges.sentence(9, "By hand WIND, its END, STEP, FROM are told.");
+        EggThrow x = Edges.meadow("p;pl2a5r2;e;eb60");
+        int[][] sets = {{0, 1}, {2, 3}, {2, 1}, {1, 1}, {3, 1}, {3, 9}, {2, 9}, {0, 9}, {0, 2}, {1, 0}, {2, 2}};
+        int[] now = {0, 0, 2, 4};
+        for (int[] set : sets) {
+            x.set(set[0], set[1]);
+            now[set[0]] = set[1];
+            EggThrow told = Edges.meadow("mw" + now[0] + "d" + now[1] + "s" + now[2] + "f" + now[3] + ";p;pl2a5r2;e;eb60");
+            for (int egg = 0; egg <= 11; egg++) {
+                if (egg % 10 <= 1) {
+                    Edges.due("hope", x.hope(1, egg), told.hope(1, egg));
+                    Edges.due("calm", x.calm(1, egg, 1), told.calm(1, egg, 1));
+                    Edges.due("calm", x.calm(10, egg, 0), told.calm(10, egg, 0));
+                    Edges.due("gusty", x.gusty(1, egg, 9), told.gusty(1, egg, 9));
+                    Edges.due("stride", x.stride(1, egg, 1), told.stride(1, egg, 1));
+                    Edges.due("good", x.good(1, egg, 9, 305), told.good(1, egg, 9, 305));
+                }
+            }
+        }
     }
 
     private static void setsRefused() {
@@ -313,6 +337,9 @@ final class Edges06To13 {
             Edges.due("d<7 of " + d, by("y:d<7?1", d, 0, 0), d < 7 ? 1 : 0);
             Edges.due("d>7 of " + d, by("y:d>7?1", d, 0, 0), d > 7 ? 1 : 0);
             Edges.due("not d=7 of " + d, by("y:!d=7?1", d, 0, 0), d == 7 ? 0 : 1);
+            Edges.due("not d<7 of " + d, by("y:!d<7?1", d, 0, 0), d < 7 ? 0 : 1);
+            Edges.due("not d>7 of " + d, by("y:!d>7?1", d, 0, 0), d > 7 ? 0 : 1);
+            Edges.due("d<7 twice of " + d, by("y:!!d<7&!!d<7?1", d, 0, 0), d < 7 ? 1 : 0);
         }
         Edges.sentence(11, "CONDITION: TRUTHS with | between; TRUTH: UNITS with & between");
         for (int bits = 0; bits < 8; bits++) {
@@ -385,6 +412,13 @@ final class Edges06To13 {
             Edges.due("one", x.good(2, 0, 1, 5), 1);
             Edges.due("from the edge", x.good(1, 0, 1, 10), slip + 1);
             Edges.due("from the other edge", x.good(1, 0, 1, 0), slip + 1);
+        }
+        for (int bow = 0; bow <= 9; bow++) {
+            EggThrow x = Edges.meadow("pl0b9;pr5;e", "y:b=" + bow + "?0;y:99");
+            for (int other = 0; other <= 9; other++) {
+                Edges.due("BOW " + other + " by " + bow, x.good(1, 0, 1, 100 * other), other == bow ? 1 : 0);
+                Edges.due("BOW " + other + " by " + bow, x.good(1, 0, 1, 100 * other + 10), other == bow ? 1 : 0);
+            }
         }
         Edges.due("none at the edge", Edges.meadow("pl4;pr0;e", "y:0").good(1, 0, 1, 10), 0);
         Edges.due("the last at the edge", Edges.meadow("pl5;pr0;e", "y:0").good(1, 0, 1, 10), 1);

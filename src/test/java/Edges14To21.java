@@ -16,6 +16,7 @@ final class Edges14To21 {
         fars();
         hopes();
         firsts();
+        firstsWithLastEgg();
         firstsRefused();
         whomOfSeveral();
         whomRefused();
@@ -23,6 +24,7 @@ final class Edges14To21 {
         whichRefused();
         witnessTwenty();
         witnessRefused();
+        strongByOne();
         strongWithin();
         strongCracked();
         strongRefused();
@@ -89,6 +91,11 @@ final class Edges14To21 {
         Edges.due("the first from the wind's end", z.comes(1, 0, 1), WHOLE);
         Edges.due("the second from the other", z.comes(1, 0, 2), 0);
         Edges.due("the first from the other end", z.comes(1, 1, 1), 0);
+        EggThrow turns = Edges.meadow("mw1;p;p;e", "y:w=1?0;y:r=0?0;y:99");
+        for (int k = 0; k <= 29; k++) {
+            Edges.due("every second one against the wind, " + k, turns.comes(1, 0, k), third(k / 2));
+            Edges.due("from the other end, " + k, turns.comes(1, 1, k), third((k + 1) / 2));
+        }
         z.set(1, 1);
         Edges.due("the wind turned about", z.comes(1, 0, 1), 0);
         Edges.due("the wind turned about", z.comes(1, 1, 1), WHOLE);
@@ -113,6 +120,11 @@ final class Edges14To21 {
         Edges.due("sixty", Edges.meadow("ms1f1;p;p;e", "y:0").far(1, 0), 60);
         Edges.due("till parts are cut to 0", Edges.meadow("ms1f1;p;p;e", THIRDS).far(1, 0), 18);
         Edges.due("till one is never caught", Edges.meadow("p;p;e", "y:d=10?99;y:0").far(1, 0), 3);
+        EggThrow behind = Edges.meadow("p;p;e;eb99", "y:99");
+        Edges.due("all, with a firm egg", behind.far(1, 10), 29);
+        Edges.due("none behind that", behind.far(1, 0), 0);
+        Edges.due("all behind that", behind.hope(1, 10), 29L * WHOLE);
+        Edges.due("none behind that", behind.hope(1, 0), 0);
         Edges.sentence(15, "NONE: no such ones");
         Edges.noSuchTwo(NONE, (x, v) -> x.far(v, 0));
         Edges.noSuchEggEnd(NONE, (x, v) -> x.far(1, v));
@@ -165,6 +177,17 @@ final class Edges14To21 {
         firstIs("y:99", 10, 0);
     }
 
+    /** With the last of the eggs, from both ends. */
+    private static void firstsWithLastEgg() {
+        Edges.sentence(17, "10 times both PERSONS; the EGG");
+        for (int end = 0; end < 2; end++) {
+            EggThrow x = Edges.meadow("mf60w1d" + end + ";p;p;e;eb1;eb1;eb1;eb1;eb50", "y:w=0-1?50;y:99");
+            Edges.due("first", x.first(1, 5, 0), 1 - end);
+            Edges.due("hope", x.first(1, 5, 1), WHOLE);
+            Edges.due("with another egg none", x.first(1, 4, 1), 0);
+        }
+    }
+
     private static void firstsRefused() {
         Edges.sentence(17, "NONE: no such ones");
         Edges.noSuchTwo(NONE, (x, v) -> x.first(v, 0, 0));
@@ -204,6 +227,7 @@ final class Edges14To21 {
         ends.set(1, 1);
         Edges.due("from END 0", ends.whom(1), 0);
         Edges.due("EGG 0", Edges.meadow("mf60;p;p;eb1;eb99", "y:50").whom(1), 0);
+        Edges.due("EGG 0", Edges.meadow("mf60;p;p;eb99;eb1", "y:50").whom(1), WHOLE);
         EggThrow lower = Edges.meadow("mf60;pa0;pa9;e", "y:a*10");
         Edges.due("the lower one throws", lower.whom(1), 0);
     }
@@ -294,6 +318,21 @@ final class Edges14To21 {
         Edges.due(what + "how many", x.strong(1, 0), least == NONE ? 0 : greatest - least + 1);
         Edges.due(what + "the least", x.strong(1, 1), least);
         Edges.due(what + "the greatest", x.strong(1, 2), greatest);
+    }
+
+    private static void strongByOne() {
+        Edges.sentence(21, "how many, the least, the greatest");
+        EggThrow x = Edges.meadow("p;p;e;e");
+        x.witness(0, 40, true);
+        Edges.due("by the first alone", x.strong(0, 0), 60);
+        Edges.due("of the other egg nothing", x.strong(1, 0), 99);
+        for (int i = 2; i <= 19; i++) {
+            x.witness(1, 999, true);
+        }
+        x.witness(0, 60, false);
+        Edges.due("by the first and the twentieth", x.strong(0, 0), 20);
+        Edges.due("the least", x.strong(0, 1), 40);
+        Edges.due("the greatest", x.strong(0, 2), 59);
     }
 
     private static void strongWithin() {

@@ -12,6 +12,7 @@ final class Edges22To32 {
 
     static void hold() {
         armsAsBits();
+        armsInWind();
         armsRefused();
         boldYards();
         boldRests();
@@ -56,6 +57,19 @@ final class Edges22To32 {
         Edges.due("0 is always so", Edges.meadow("p;p;e", "y:99").arms(1, 0, 1, 5, 0), 1023);
         Edges.due("more than slips", Edges.EASY.made().arms(1, 0, 1, 5, 4), 0);
         Edges.due("as many as slips", Edges.EASY.made().arms(1, 0, 1, 5, 3), 1023);
+    }
+
+    /** The wind as it is told, from both ends. */
+    private static void armsInWind() {
+        Edges.sentence(22, "ARMS, as bits (codes as for GOOD)");
+        EggThrow x = Edges.meadow("mw3;p;p;eb1", "y:w=3?a;y:99");
+        Edges.due("with the wind", x.arms(1, 0, 1, 5, 1), 3);
+        Edges.due("against it", x.arms(1, 1, 1, 5, 1), 0);
+        EggThrow y = Edges.meadow("mw8;pl0b2;pr0;e", "y:d=7&b=1?a*9;y:99");
+        Edges.due("BOW 1, AIM -2 over 7", y.arms(1, 0, 7, 103, 1), 15);
+        Edges.due("from the other end", y.arms(1, 1, 7, 103, 1), 0);
+        Edges.due("over 8", y.arms(1, 0, 8, 103, 1), 0);
+        Edges.due("BOW 2, AIM -4", y.arms(1, 0, 7, 201, 1), 0);
     }
 
     private static void armsRefused() {
@@ -177,6 +191,11 @@ final class Edges22To32 {
         Edges.due("none against one throw", ends.duel(1, 1, 10, 0), 0);
         ends.set(1, 1);
         Edges.due("none each", ends.duel(1, 1, 1, 1), WHOLE);
+        EggThrow last = Edges.meadow("mf60w1;p;p;eb1;eb1;eb1;eb1;eb1;eb50", "y:w=1?50;y:99");
+        Edges.due("the last egg against the first", last.duel(1, 1, 50, 0), WHOLE);
+        Edges.due("the first egg against the last", last.duel(1, 1, 5, 0), 0);
+        Edges.due("the last egg each", last.duel(1, 1, 55, 1), WHOLE);
+        Edges.due("the first egg against the last", last.duel(1, 1, 5, 1), 0);
     }
 
     private static void duelRefused() {
@@ -206,6 +225,9 @@ final class Edges22To32 {
         EggThrow ends = Edges.meadow("mf60w1;p;p;e;e", "y:w=1?0;y:99");
         Edges.due("END of who throws first", ends.lot(1, 0), WHOLE);
         Edges.due("END of who throws first", ends.lot(1, 1), 0);
+        EggThrow last = Edges.meadow("mf60w1;p;p;eb1;eb1;eb50", "y:w=0-1?50;y:99");
+        Edges.due("the last egg from the other end", last.lot(1, 1), 333333333);
+        Edges.due("the last egg against it", last.lot(1, 0), 0);
         Edges.sentence(25, "NONE: no such ones");
         Edges.noSuchTwo(NONE, (x, v) -> x.lot(v, 0));
         Edges.noSuchEnd(NONE, (x, v) -> x.lot(1, v));
@@ -222,6 +244,9 @@ final class Edges22To32 {
         Edges.due("all but one slip is not all", Edges.meadow("pl5;pr5;e", "y:r=5?99;y:0").safe(1, 0), NONE);
         Edges.due("all eleven", Edges.meadow("pl5;pr5;e", "y:0").safe(1, 0), 60);
         Edges.due("ten of eleven", Edges.meadow("pl5;pr4;e", "y:0").safe(1, 0), NONE);
+        EggThrow slips = Edges.meadow("pl5r5;pl0r0;e", "y:0");
+        Edges.due("who throws slips", slips.safe(1, 0), NONE);
+        Edges.due("who throws does not slip", slips.safe(10, 0), 60);
         EggThrow ends = Edges.meadow("mw1;p;p;e;eb99", "y:w=1&d<9?0;y:98");
         Edges.due("from an END", ends.safe(1, 0), 8);
         Edges.due("from an END", ends.safe(1, 1), NONE);
@@ -246,6 +271,11 @@ final class Edges22To32 {
                 Edges.due("bow " + bow + ", least " + least, x.spots(1, 0, 60, least), (bow + 1) * aims);
             }
         }
+        // BOW b carries it off by b: AIM -b alone brings it back, for BOWS 0 to 5
+        EggThrow wind = Edges.meadow("mw4;pl0b9;pr0;e", "y:d=7?0;y:99");
+        Edges.due("in wind over 7", wind.spots(1, 0, 7, 1), 6);
+        Edges.due("from the other end", wind.spots(1, 1, 7, 1), 6);
+        Edges.due("in wind over 8", wind.spots(1, 0, 8, 1), 0);
         EggThrow none = Edges.meadow("p;p;e", "y:99");
         Edges.due("0 is always so", none.spots(1, 0, 1, 0), 66);
         Edges.due("never one", none.spots(1, 0, 1, 1), 0);
@@ -280,6 +310,11 @@ final class Edges22To32 {
         }
         Edges.due("none", Edges.meadow("p;p;e", "y:99").legs(1, 0, 1, 5, 1), 0);
         Edges.due("no slip", Edges.meadow("pl0;p;e", "y:0").legs(1, 0, 1, 9, 1), 48);
+        EggThrow wind = Edges.meadow("mw8;pl0b1;p;e", "y:d=7&b=1?0;y:99");
+        Edges.due("the wind carries it off by 2", wind.legs(1, 0, 7, 105, 1), 60);
+        Edges.due("AIM -2 brings it back", wind.legs(1, 0, 7, 103, 1), 63);
+        Edges.due("off by 4 from the other end", wind.legs(1, 1, 7, 103, 1), 48);
+        Edges.due("over 8 never", wind.legs(1, 0, 8, 103, 1), 0);
     }
 
     private static void legsRefused() {
@@ -322,6 +357,9 @@ final class Edges22To32 {
         strideIs("f51", 9, "y:d=51|d=60?0;y:99", 111000);
         strideIs("f52", 1, "y:d=52|d=61?0;y:99", 52000);
         strideIs("f1", 1, "y:99", 0);
+        EggThrow wind = Edges.meadow("mf60w3;p;p;e", "y:w=3?0;y:99");
+        Edges.due("with the wind", wind.stride(1, 0, 1), 60000);
+        Edges.due("against it", wind.stride(1, 1, 1), 0);
         Edges.sentence(29, "(by 1,000,000 each, cut)");
         long sum = 0;
         for (int k = 1; k <= 60; k++) {
@@ -338,6 +376,7 @@ final class Edges22To32 {
             nine += (9L * k - 8) * Edges14To21.third(k) / 1000000;
         }
         Edges.due("each cut", x.stride(1, 0, 1), nine);
+        Edges.due("19999.99998", Edges.meadow("mf60;p;p;e", Edges14To21.THIRDS).stride(1, 0, 1), 19999);
         Edges.due("the longest", x.stride(1, 0, 0), 9);
     }
 
@@ -376,6 +415,11 @@ final class Edges22To32 {
         Edges.due("from END 0", ends.rank(0, 2), 1);
         ends.set(1, 1);
         Edges.due("from END 0", ends.rank(0, 0), 1);
+        EggThrow last = Edges.meadow("mf60w1;p;pa9;p;eb1;eb1;eb1;eb1;eb1;eb50", "y:w=1&a=3?50;y:99");
+        Edges.due("with the last egg from END 0", last.rank(5, 0), 2);
+        Edges.due("with the last egg from END 0", last.rank(5, 1), 12);
+        Edges.due("with the last egg from END 0", last.rank(5, 2), 1);
+        Edges.due("with another egg all alike", last.rank(4, 0), 1);
         Edges.sentence(30, "NONE: no such EGG");
         Edges.noSuchEgg(NONE, (y, v) -> y.rank(v, 0));
         Edges.sentence(30, "no such i");
@@ -409,6 +453,10 @@ final class Edges22To32 {
         Edges.due("of several", Edges.meadow("mf60;p;p;e", "y:w>6?0;y:99").calm(1, 0, 0), 7);
         Edges.due("of all", Edges.meadow("mf60w5;p;p;e", "y:0").calm(1, 0, 0), 0);
         Edges.due("of none", Edges.meadow("mf60w5;p;p;e", "y:99").calm(1, 0, 0), 0);
+        EggThrow storm = Edges.meadow("mf60w5;p;p;e", "y:w>9|w<0-9?0;y:99");
+        Edges.due("no WIND 10", storm.calm(1, 0, 0), 0);
+        Edges.due("no WIND 10", storm.calm(1, 0, 1), 0);
+        Edges.due("no WIND 10", storm.calm(1, 1, 1), 0);
         Edges.due("of none", Edges.meadow("mf60w5;p;p;e", "y:99").calm(1, 0, 1), 0);
     }
 
@@ -434,6 +482,13 @@ final class Edges22To32 {
             Edges.due("the bow is as it was", x.person(0, 3), bow);
         }
         Edges.due("both by nine", Edges.meadow("pb0;pb0;e", "y:b=9?0;y:99").learn(1, 0, 2, 1), 99);
+        // what another throw is good for stands for none of these
+        EggThrow first = Edges.meadow("ms1f1;pb9;pb9;e", "y:d=1?99;y:0");
+        EggThrow second = Edges.meadow("ms1f1;pb9;pb9;e", "y:d=2?99;y:0");
+        for (int k = 3; k >= 1; k--) {
+            Edges.due("the first is never caught, k " + k, first.learn(1, 0, k, 1), NONE);
+            Edges.due("the second is never caught, k " + k, second.learn(1, 0, k, 1), k == 1 ? 0 : NONE);
+        }
         Edges.due("higher than the most is not needed", Edges.meadow("pb8;pb8;e", "y:b=3?0;y:99").learn(1, 0, 2, 1), 0);
         Edges.sentence(32, "so that COMES of k is so much or more");
         EggThrow x = Edges.meadow("ms1f1;p;p;e", Edges14To21.THIRDS);
@@ -461,6 +516,30 @@ final class Edges22To32 {
         Edges.due("the first twice", x.learn(1, 0, 3, 333333333), 10);
         Edges.due("both", x.learn(1, 0, 3, 333333334), 11);
         Edges.due("both", x.learn(1, 0, 60, WHOLE), 11);
+        EggThrow slips = Edges.meadow("pl0;pl1;e", Edges14To21.THIRDS);
+        Edges.due("the other alone slips", slips.learn(1, 0, 2, 333333333), 0);
+        Edges.due("the other alone slips", slips.learn(1, 0, 2, 333333334), NONE);
+        Edges.due("the first alone slips", slips.learn(10, 0, 2, 333333333), 0);
+        Edges.due("the first alone slips", slips.learn(10, 0, 2, 333333334), NONE);
+        Edges.due("the first twice", slips.learn(10, 0, 3, 111111111), 0);
+        Edges.due("the first twice", slips.learn(10, 0, 3, 111111112), NONE);
+        EggThrow edge = Edges.meadow("mf60;pl0b0;pr5;e", "y:b>2&r=5?0;y:99");
+        Edges.due("by AIM 5 alone", edge.learn(1, 0, 1, WHOLE), 30);
+        EggThrow other = Edges.meadow("mf60;pl0b0;pr5;e", "y:b>2&r=0-5?0;y:99");
+        Edges.due("by AIM -5 alone", other.learn(1, 0, 1, WHOLE), 30);
+        Edges.due("over 60 yards alone", Edges.meadow("mf60;p;p;e", "y:d=60?0;y:99").learn(1, 0, 1, WHOLE), 0);
+        Edges.due("the second over STEP more", Edges.meadow("mf6s9;p;p;e", "y:d=6?0;y:99").learn(1, 0, 2, 1), NONE);
+        Edges.due("the second over STEP more", Edges.meadow("mf6s9;p;p;e", "y:d=6|d=15?0;y:99").learn(1, 0, 2, WHOLE), 0);
+        EggThrow wind = Edges.meadow("mf60w3;p;p;e", "y:w=3?0;y:99");
+        Edges.due("with the wind", wind.learn(1, 0, 1, WHOLE), 0);
+        Edges.due("against it", wind.learn(1, 1, 1, 1), NONE);
+        // BOW b carries it off by 2 b, and AIM goes to 5
+        int[] bows = {0, 1, 2, 3, 9};
+        for (int bow : bows) {
+            EggThrow carried = Edges.meadow("mf60w8;pl0b0;pr0;e", "y:b=" + bow + "?0;y:99");
+            Edges.due("BOW " + bow + " in wind", carried.learn(1, 0, 1, WHOLE), bow < 3 ? 10 * bow : NONE);
+            Edges.due("BOW " + bow + " in wind", carried.learn(1, 1, 1, WHOLE), bow < 3 ? 10 * bow : NONE);
+        }
         EggThrow y = Edges.meadow("ms1f1;pb0;pb0;e", "y:b>3?0;y:b>1&r<1?0;y:r=0?0;y:99");
         // by BOW 2 two thirds, by 4 all
         Edges.due("as it is", y.learn(1, 0, 2, 111111111), 0);

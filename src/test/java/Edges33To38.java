@@ -179,6 +179,12 @@ final class Edges33To38 {
         Edges.due("and is one", y.like(1, 0), 2);
         Edges.due("the middle one", y.like(1, 2), 1);
         Edges.due("another film that is alike", y.like(0, 3), 0);
+        EggThrow longer = films("1", "12", "123", "1230");
+        for (int i = 0; i < 4; i++) {
+            for (int j = 0; j < 4; j++) {
+                Edges.due("frames that just one has", longer.like(i, j), Math.abs(i - j));
+            }
+        }
         Edges.sentence(35, "NONE: no such FILMS.");
         Edges.refused(Edges.RICH, NONE, NO_FILM, (z, v) -> z.like(v, 0));
         Edges.refused(Edges.RICH, NONE, NO_FILM, (z, v) -> z.like(0, v));
@@ -241,6 +247,9 @@ final class Edges33To38 {
         ends.set(1, 1);
         feteIs(ends, 1032, 4, 1);
         feteIs(Edges.meadow("mf60;pa1;pa9;pa9;pa1;e", "y:a*9"), 1032, 4, 1);
+        feteIs(Edges.meadow("mf60w1;p;p;p;p;p;p;eb1;eb1;eb50", "y:w=1?50;y:99"), 103254, 16, 1);
+        feteIs(Edges.meadow("mf60w1;p;p;p;p;p;p;eb1;eb50;eb1", "y:w=1?50;y:99"), 103254, 4, 1);
+        feteIs(Edges.meadow("mf60w1d1;p;p;p;p;p;p;eb1;eb1;eb50", "y:w=1?50;y:99"), 103254, 21, 1);
     }
 
     /** Who throws with SLIP s aims at OFF 0 by the slip s, the last one: caught by the draw 2 s alone. */
@@ -331,6 +340,11 @@ final class Edges33To38 {
         EggThrow last = Edges.meadow("ms1f1;p;p;p;p;p;p;eb1;eb1;eb9", "y:9");
         Edges.due("EGG 2", last.crown(103254, 4), WHOLE);
         Edges.due("EGG 1", last.crown(103254, 2), 0);
+        EggThrow wind = Edges.meadow("mf60w1;p;p;p;p;p;p;eb1;eb1;eb50", "y:w=1?50;y:99");
+        Edges.due("EGG 2 from END 0", wind.crown(103254, 4), WHOLE);
+        EggThrow duel = Edges.meadow("ms1f1;p;p;e", "y:0");
+        duel.duel(1, 10, 0, 0);
+        Edges.due("one pair behind a duel", duel.crown(10, 0), WHOLE);
     }
 
     private static void crownsRefused() {

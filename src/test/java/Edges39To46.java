@@ -59,6 +59,15 @@ final class Edges39To46 {
         EggThrow ends = Edges.meadow("mw1;p;p;e", "y:w=1?0;y:99");
         Edges.due("from an END", ends.spare(1, 0, 1), 0);
         Edges.due("from an END", ends.spare(1, 1, 1), NONE);
+        EggThrow last = Edges.meadow("mw1;p;p;eb1;eb1;eb50", "y:w=1?50;y:99");
+        Edges.due("the last egg", last.spare(1, 0, 1), 2);
+        Edges.due("not from the other end", last.spare(1, 1, 1), NONE);
+        last.set(1, 1);
+        Edges.due("the last egg from END 1", last.spare(1, 1, 1), 2);
+        Edges.due("not from the other end", last.spare(1, 0, 1), NONE);
+        EggThrow slips = Edges.meadow("pl5r5;pl0r0;e", "y:0");
+        Edges.due("who throws slips", slips.spare(1, 0, 1), NONE);
+        Edges.due("who throws does not slip", slips.spare(10, 0, 1), 0);
     }
 
     private static void sparesRefused() {
@@ -143,6 +152,10 @@ final class Edges39To46 {
         EggThrow wide = Edges.meadow("pl5;pr4;e", "y:0");
         Edges.due("nine of eleven", wide.loft(1, 0, 1, 0, 0), 0);
         Edges.due("nine of eleven", wide.loft(1, 0, 1, 0, 1), 9);
+        EggThrow just = Edges.meadow("pl0b9;pr5;e", "y:d=7&b=3?0;y:99");
+        Edges.due("BOW 3 over 7", just.loft(1, 0, 7, 3, 1), 1);
+        Edges.due("BOW 3 over 3", just.loft(1, 0, 3, 3, 1), 0);
+        Edges.due("BOW 7 over 7", just.loft(1, 0, 7, 7, 1), 0);
         EggThrow wind = Edges.meadow("mw9;pl0b9;pr0;e", "y:0");
         int[] aims = {0, -2, -4, 0, 0};
         for (int bow = 0; bow < aims.length; bow++) {
@@ -256,6 +269,12 @@ final class Edges39To46 {
             y.measure(1, 101, 99, 198);
             Edges.due("none of them", y.held(), 0);
         }
+        int[] hows = {100, 101, 190, 191, 6000, 6001, 6090, 6091};
+        for (int how : hows) {
+            EggThrow codes = Edges.meadow("mw1;p;p;e", "y:d*10+b+w");
+            codes.measure(0, how, 0, how / 100 * 10 + how / 10 % 10 + 1 - 2 * (how % 10));
+            Edges.due("the code " + how, codes.held() & 1, 1);
+        }
         EggThrow z = Edges.meadow("p;p;e", "y:0-7");
         z.measure(0, 110, 0, 0);
         Edges.due("held at 0", z.held(), 1 + 16);
@@ -317,6 +336,9 @@ final class Edges39To46 {
         Edges.due("the first only throws", arms.chain(12, 0, 4), WHOLE);
         Edges.due("the last only catches", arms.chain(120, 0, 4), 0);
         Edges.due("another EGG", arms.chain(120, 1, 4), WHOLE);
+        EggThrow last = Edges.meadow("mw1;p;p;eb1;eb1;eb1;eb1;eb1;eb50", "y:w=1?50;y:99");
+        Edges.due("the last EGG from END 0", last.chain(10, 5, 4), WHOLE);
+        Edges.due("the one ahead of it", last.chain(10, 4, 4), 0);
     }
 
     private static void chainsRefused() {
@@ -365,6 +387,9 @@ final class Edges39To46 {
         ends.set(1, 1);
         rowIs(ends, 1, 0);
         Edges.due("another EGG", ends.row(1, 30, 1), WHOLE);
+        EggThrow last = Edges.meadow("mw1;p;p;eb1;eb1;eb1;eb1;eb1;eb50", "y:w=1?50;y:99");
+        Edges.due("the last EGG from END 0", last.row(5, 30, 1), WHOLE);
+        Edges.due("the one ahead of it", last.row(4, 30, 1), 0);
     }
 
     private static void rowsRefused() {

@@ -216,8 +216,11 @@ final class Edges47To53 {
     private static void imagesKeep() {
         Edges.sentence(52, "An IMAGE keeps these, GAMES; BACK: they are so again.");
         EggThrow x = Edges.meadow("mw3d1s5f6;p;p;e;e", "y:5");
-        x.game(1, 0, 1);
-        x.game(10, 11, 2);
+        int caughtFirst = x.game(1, 0, 1);
+        x.set(3, 50);
+        int caughtSecond = x.game(10, 11, 2);
+        x.set(3, 6);
+        Edges.due("not alike", caughtFirst == caughtSecond, false);
         x.image();
         int[] set = {9, 0, 1, 60};
         for (int what = 0; what < 4; what++) {
@@ -241,6 +244,8 @@ final class Edges47To53 {
         Edges.due("the first game", x.played(0, 1), 0);
         Edges.due("the second game", x.played(1, 1), 11);
         Edges.due("the second game", x.played(1, 0), 10);
+        Edges.due("what was caught", x.played(0, 2), caughtFirst);
+        Edges.due("what was caught", x.played(1, 2), caughtSecond);
         Edges.due("no third", x.played(2, 0), NONE);
         x.set(0, 9);
         Edges.due("back once more", x.back(), 2);
