@@ -17,6 +17,7 @@ public final class BoundariesTest {
         Edges39To46.hold();
         Edges47To53.hold();
         EdgesOfCodes.hold();
+        EdgesOfRefusals.hold();
         if (Edges.finish(System.getProperty("doc")) > 0) {
             System.exit(1);
         }

@@ -791,20 +791,29 @@ final class Edges01To05 {
         Edges.sentence(5, "there are four");
         Edges.refused(() -> withTape(Edges.FULL, "y:1"), NONE, x -> x.text(1));
         Edges.refused(() -> withTape(Edges.FULL, "12"), NONE, x -> x.text(2));
+        Edges.sentence(5, "LAWS (4 at most)");
         EggThrow laws = new EggThrow();
-        EggThrow films = new EggThrow();
         for (int i = 0; i < 4; i++) {
             Edges.due("up to the fourth", Edges.tell(laws, 1, "y:1"), i);
-            Edges.due("up to the fourth", Edges.tell(films, 2, "1"), i);
         }
         Edges.due("no fifth law", Edges.tell(laws, 1, "y:1"), NONE);
         Edges.due("its tape stays", laws.count(3), 3);
         Edges.due("a film all the same", Edges.tell(laws, 2, "1"), 0);
-        Edges.due("no fifth film", Edges.tell(films, 2, "1"), NONE);
-        Edges.due("a law all the same", Edges.tell(films, 1, "y:1"), 0);
         for (int i = 0; i < 6; i++) {
             Edges.due("meadows are not counted", Edges.tell(laws, 0, "p;p;e"), 2);
         }
         Edges.due("four still", Edges.tell(laws, 1, "y:1"), NONE);
+        Edges.due("four still", laws.count(2), 4);
+        Edges.sentence(5, "FILMS (4 at most)");
+        EggThrow films = new EggThrow();
+        for (int i = 0; i < 4; i++) {
+            Edges.due("up to the fourth", Edges.tell(films, 2, "1"), i);
+        }
+        Edges.due("no fifth film", Edges.tell(films, 2, "1"), NONE);
+        Edges.due("its tape stays", films.count(3), 1);
+        Edges.due("a law all the same", Edges.tell(films, 1, "y:1"), 0);
+        Edges.due("a meadow all the same", Edges.tell(films, 0, "p;p;e"), 2);
+        Edges.due("four still", Edges.tell(films, 2, "1"), NONE);
+        Edges.due("four still", films.count(11), 4);
     }
 }

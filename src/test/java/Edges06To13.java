@@ -203,6 +203,8 @@ final class Edges06To13 {
         Edges.taken(Edges.RICH, HIDDEN, Edges.BOTH_ENDS, (x, v) -> x.off(0, v, 0, 0, 0));
         Edges.refused(Edges.BARE, HIDDEN, Edges.BOTH_ENDS, (x, v) -> x.off(v, 0, 0, 0, 0));
         Edges.sentence(10, "out of bounds");
+        Edges.refused(Edges.RICH, HIDDEN, x -> x.off(0, 0, 8, 0, 0), x -> x.off(0, 0, 0, 6, 0), x -> x.off(0, 0, 0, 0, 3));
+        Edges.sentence(10, "a BOW (0 .. the highest of who throws)");
         Edges.refused(Edges.RICH, HIDDEN, new int[] {-1, 8, 9, Edges.LOWEST, Edges.HIGHEST}, (x, v) -> x.off(0, 0, v, 0, 0));
         Edges.taken(Edges.RICH, HIDDEN, new int[] {0, 7}, (x, v) -> x.off(0, 0, v, 0, 0));
         Edges.refused(Edges.RICH, HIDDEN, new int[] {6, 7}, (x, v) -> x.off(1, 0, v, 0, 0));

@@ -233,6 +233,12 @@ final class Edges14To21 {
     }
 
     private static void whomRefused() {
+        Edges.sentence(18, "all PERSONS (an even number) in PAIRS");
+        for (int persons = 2; persons <= 6; persons++) {
+            EggThrow x = Edges.meadow(Edges.repeated("p", persons, ";") + ";e");
+            Edges.due(persons + " persons", x.whom(0) == NONE, persons % 2 == 1);
+            Edges.due(persons + " persons", x.whom(1) == NONE, persons % 2 == 1);
+        }
         Edges.sentence(18, "NONE: an odd number of PERSONS");
         Edges.refused(Edges.ODD, NONE, Edges.BOTH_WHATS, (x, v) -> x.whom(v));
         Edges.refused(Edges.of("p;p;p;p;p;e"), NONE, Edges.BOTH_WHATS, (x, v) -> x.whom(v));
@@ -280,6 +286,8 @@ final class Edges14To21 {
             Edges.due("one more", x.witness(i % 6, i == 1 ? 0 : 999, i % 2 == 0), i);
             Edges.due("counted", x.count(9), i);
         }
+        Edges.sentence(20, "WITNESSED (20 at most)");
+        Edges.due("a twenty-first", x.witness(0, 0, true), NONE);
         Edges.sentence(20, "there are 20");
         Edges.due("no more", x.witness(0, 0, true), NONE);
         Edges.due("no more of another", x.witness(5, 0, false), NONE);
@@ -298,6 +306,7 @@ final class Edges14To21 {
         Edges.sentence(20, "out of bounds");
         Edges.refused(Edges.RICH, NONE, new int[] {-1, 1000, Edges.LOWEST, Edges.HIGHEST}, (x, v) -> x.witness(0, v, true));
         Edges.refused(Edges.RICH, NONE, new int[] {-1, 1000}, (x, v) -> x.witness(0, v, false));
+        Edges.sentence(20, "an EGG bore a FORCE (0 .. 999), or broke");
         Edges.done(Edges.RICH, NONE, new int[] {0, 999}, (x, v) -> x.witness(0, v, true));
     }
 

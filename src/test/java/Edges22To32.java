@@ -179,6 +179,7 @@ final class Edges22To32 {
         Edges.due("all sixty against thirds", x.duel(1, 1, 10, 1), 0);
         Edges.due("all sixty each", x.duel(1, 1, 12, 0), 0);
         Edges.due("all sixty each", x.duel(1, 1, 12, 1), WHOLE);
+        Edges.sentence(24, "parts by which both come as far (just k times just k likewise)");
         EggThrow none = Edges.meadow("p;p;eb1;eb99", "y:50");
         Edges.due("none each", none.duel(1, 1, 0, 0), 0);
         Edges.due("none each", none.duel(1, 1, 0, 1), WHOLE);

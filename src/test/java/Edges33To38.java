@@ -58,6 +58,13 @@ final class Edges33To38 {
         turnsAre("909", 1);
         turnsAre("1212", 2);
         turnsAre("1 3 2 4", 2);
+        Edges.sentence(33, "or lower than both");
+        turnsAre("101", 1);
+        turnsAre("989", 1);
+        turnsAre("10101", 3);
+        turnsAre("3 1 2", 1);
+        turnsAre("312321", 2);
+        Edges.sentence(33, "frames behind the first and ahead of the last");
         turnsAre("121212121212121212121212", 22);
         turnsAre("12121212121212121212121", 21);
         turnsAre("000000000000000000000000", 0);

@@ -220,6 +220,8 @@ final class Edges39To46 {
             Edges.due("one more", x.measure(i % 6, i % 2 == 0 ? 100 : 6091, i % 2 == 0 ? -99 : 99, i % 2 == 0 ? 0 : 999), i);
             Edges.due("counted", x.count(12), i);
         }
+        Edges.sentence(43, "MEASURED (20 at most)");
+        Edges.due("a twenty-first", x.measure(0, 100, 0, 0), NONE);
         Edges.sentence(43, "there are 20");
         Edges.due("no more", x.measure(0, 100, 0, 0), NONE);
         Edges.due("counted", x.count(12), 20);
@@ -342,6 +344,16 @@ final class Edges39To46 {
     }
 
     private static void chainsRefused() {
+        Edges.sentence(45, "(digits, each once, the first the highest; as many as there are)");
+        for (int persons = 2; persons <= 4; persons++) {
+            EggThrow x = Edges.meadow(Edges.repeated("p", persons, ";") + ";e");
+            int rows = 0;
+            for (int row = 0; row < 400; row++) {
+                rows += x.chain(row, 0, 4) == NONE ? 0 : 1;
+            }
+            // of four persons those alone that begin with 0 are below 400
+            Edges.due("rows of " + persons, rows, persons == 2 ? 2 : 6);
+        }
         Edges.sentence(45, "NONE: no such row");
         Edges.refused(Edges.RICH, NONE, NO_ROW, (x, v) -> x.chain(v, 0, 4));
         Edges.taken(Edges.RICH, NONE, LAST_ROW, (x, v) -> x.chain(v, 0, 4));

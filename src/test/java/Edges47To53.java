@@ -177,6 +177,12 @@ final class Edges47To53 {
     }
 
     private static void undone() {
+        Edges.sentence(50, "The latest can be UNDONE.");
+        EggThrow two = Edges.EASY.made();
+        two.game(1, 0, 1);
+        two.game(32, 21, 1);
+        Edges.due("the latest", two.undo(), 1);
+        Edges.due("the one ahead of it stays", two.played(0, 0), 1);
         Edges.sentence(50, "The latest GAME is UNDONE: how many there are.");
         EggThrow x = Edges.FULL.made();
         for (int i = 39; i >= 0; i--) {
