@@ -17,6 +17,7 @@ final class Edges01To05 {
         feedLeavesOutZeros();
         feedMoreThan160();
         endFirstBytes();
+        endBehindIsGone();
         endRefused();
         faultNumbersOfClauses();
         faultItems();
@@ -160,6 +161,23 @@ final class Edges01To05 {
         x.end(4);
         Edges.tell(x, 2, "12345");
         Edges.due("a film of its own bytes", x.film(0, 1), 5);
+    }
+
+    /** Bytes behind the end, blanks and digits above all, must not be read on. */
+    private static void endBehindIsGone() {
+        Edges.sentence(3, "its first n bytes alone");
+        String[] texts = {" m w 1 ; p l 2 ; p ; e b 12  ", "p;p;e   ;   ", " y : d > 12 ? 34 + [ r ] ; y : 5   ", " 1 2  3   "};
+        for (String text : texts) {
+            for (int n = text.length(); n >= 0; n--) {
+                for (int sort = 0; sort < 3; sort++) {
+                    EggThrow x = new EggThrow();
+                    Edges.feed(x, text);
+                    x.end(n);
+                    Edges.due("sort " + sort + " of '" + text + "' cut to " + n, x.fault(sort),
+                            Edges.fault(sort, text.substring(0, n)));
+                }
+            }
+        }
     }
 
     private static void endRefused() {

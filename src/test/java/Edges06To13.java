@@ -407,6 +407,14 @@ final class Edges06To13 {
         Edges.due("the aim does not bring it back", far.good(1, 0, 1, 410), 0);
         Edges.due("9 by 4 is 2", far.good(1, 0, 1, 103), 11);
         Edges.due("from the other end", far.good(1, 1, 1, 107), 11);
+        // BOW b carries it off by b beyond the farthest AIM: of eleven slips those that come back to 5
+        EggThrow wide = Edges.meadow("mw4;pl5b9;pr5;e", "y:0");
+        for (int bow = 0; bow <= 9; bow++) {
+            Edges.due("too far by BOW " + bow, wide.good(1, 0, 1, 100 * bow + 10), Math.max(0, 6 - bow));
+            Edges.due("too near by BOW " + bow, wide.good(1, 1, 1, 100 * bow), Math.max(0, 6 - bow));
+            Edges.due("back by BOW " + bow, wide.good(1, 0, 1, 100 * bow), 11 - Math.abs(bow - 5));
+            Edges.due("back by BOW " + bow, wide.good(1, 1, 1, 100 * bow + 10), 11 - Math.abs(bow - 5));
+        }
         Edges.sentence(12, "GOOD: of how many slips a THROW is caught whole.");
         for (int slip = 0; slip <= 5; slip++) {
             EggThrow x = Edges.meadow("pl" + slip + ";pr5;pr0;e", "y:0");

@@ -19,6 +19,7 @@ final class EdgesOfCodes {
 
     static void hold() {
         allBestsOfOne();
+        bestsBehindAll();
         throwsOfTwo();
         coursesOfTwo();
         choicesOfTwo();
@@ -71,6 +72,39 @@ final class EdgesOfCodes {
                                 few.best(1, end, yards, 1));
                     }
                 }
+            }
+        }
+    }
+
+    /** What is asked of all persons and eggs leaves what is asked of any two as it is. */
+    private static void bestsBehindAll() {
+        Edges.sentence(18, "WHOM: all PERSONS");
+        bestsBehind(x -> x.whom(0));
+        Edges.sentence(30, "RANK: all PAIRS");
+        for (int egg = 0; egg < 6; egg++) {
+            int with = egg;
+            bestsBehind(x -> x.rank(with, 0));
+        }
+        Edges.sentence(46, "ROW: of all rows");
+        bestsBehind(x -> x.row(5, 4, 0));
+        Edges.sentence(36, "FETE: PERSONS in PAIRS");
+        bestsBehind(x -> x.fete(543210, 1, 0));
+        Edges.sentence(37, "CROWN of a PAIR");
+        bestsBehind(x -> x.crown(543210, 0));
+        Edges.sentence(38, "CARTON: a PAIR throws n THROWS");
+        bestsBehind(x -> x.carton(54, 1, 6, 0));
+        Edges.sentence(19, "WHICH EGG");
+        bestsBehind(x -> x.which(54, 1, 0));
+    }
+
+    private static void bestsBehind(Edges.Call call) {
+        EggThrow asked = full();
+        EggThrow fresh = full();
+        call.on(asked);
+        for (int two = 1; two < 60; two++) {
+            for (int egg = 0; egg < 12 && two % 10 < 6 && two / 10 != two % 10; egg++) {
+                int code = egg / 2 * 10 + egg % 2;
+                Edges.due("hope of " + two + " with " + code, asked.hope(two, code), fresh.hope(two, code));
             }
         }
     }
