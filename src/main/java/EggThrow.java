@@ -1249,7 +1249,7 @@ public final class EggThrow {
 
         private int itemUnder(int item, int many) {
             int sign = tape.sign();
-            for (int i = 0; i < many; i++) {
+            for (int i = 0; i < many && item + i < ITEM_LETTERS.length; i++) {
                 if (ITEM_LETTERS[item + i] == sign) {
                     return i;
                 }
@@ -1258,7 +1258,7 @@ public final class EggThrow {
         }
 
         private void putUsual(int place, int item, int many) {
-            for (int i = 0; i < many; i++) {
+            for (int i = 0; i < many && item + i < ITEM_USUAL.length; i++) {
                 keep(place + i, ITEM_USUAL[item + i]);
             }
         }
@@ -2117,6 +2117,9 @@ public final class EggThrow {
             for (int lower = 0; lower < persons; lower++) {
                 for (int other = lower + 1; other < persons; other++) {
                     int rival = lower * MOST_PERSONS + other;
+                    if (rival >= hopes.length) {
+                        return NONE;
+                    }
                     if (hopes[rival] > hopes[place] || hopes[rival] == hopes[place] && rival < place) {
                         ahead++;
                     }
@@ -2140,7 +2143,7 @@ public final class EggThrow {
 
         /** How many pairs the digits tell; 0 if they are none. */
         int readPairs(int pairs, int persons) {
-            if (persons <= 0 || !readDigits(pairs, partners, persons)) {
+            if (persons <= 0 || persons > partners.length || !readDigits(pairs, partners, persons)) {
                 return 0;
             }
             int count = 0;
@@ -2149,7 +2152,7 @@ public final class EggThrow {
                 if (partner == i || partners[partner] != i) {
                     return 0;
                 }
-                if (i < partner) {
+                if (i < partner && count < lowers.length) {
                     lowers[count] = i;
                     count++;
                 }
@@ -2162,7 +2165,7 @@ public final class EggThrow {
         }
 
         int pairOfLower(int lower, int count) {
-            for (int pair = 0; pair < count; pair++) {
+            for (int pair = 0; pair < count && pair < lowers.length; pair++) {
                 if (lowers[pair] == lower) {
                     return pair;
                 }
@@ -2182,7 +2185,7 @@ public final class EggThrow {
         }
 
         boolean readRow(int row, int persons) {
-            if (persons <= 0 || !readDigits(row, partners, persons)) {
+            if (persons <= 0 || persons > partners.length || !readDigits(row, partners, persons)) {
                 return false;
             }
             int used = 0;
